@@ -97,7 +97,8 @@ final class RealmTest {
         x.come(0);
         x.come(0);
         x.come(0);
-        x.come(0);
+        x.come(1);
+        CHECK.due("one stands, one crime", x.told(6) + x.told(8), 2);
         x.shut(0, true);
         x.see(0, true);
         x.write(0, 3);

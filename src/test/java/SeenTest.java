@@ -60,6 +60,12 @@ final class SeenTest {
         x.shut(2, false);
         x.see(4, false);
         CHECK.due("a table without a chain tells nothing", x.came(), 32);
+        x.tear();
+        x.see(1, true);
+        CHECK.due("by 1", x.came(), 3);
+        x.build(1);
+        x.build(1);
+        CHECK.due("1 is a chain's last now", x.came(), 0);
         FreePlace none = new FreePlace();
         CHECK.due("without a realm", none.came(), 0);
     }

@@ -80,6 +80,9 @@ final class TriedTest {
         CHECK.due("cut off with 5 seats", x.more(0), 3);
         CHECK.due("cut off", x.more(1), 0);
         CHECK.due("cut off, one FREE", x.more(2), 0);
+        FreePlace path = Check.realmOf("r0 0;t1 0;t1 0;t1 0;t1 0;t1 0;t1 0;t1 0;t1 0;t4 0;"
+                + "w0 1;w1 2;w2 3;w3 4;w4 5;w5 6;w6 7;w7 8;");
+        CHECK.due("as far as it hangs together", path.more(0), 3);
         CHECK.due("more(5)", x.more(5), FreePlace.UNKNOWN);
         CHECK.due("more(-1)", x.more(-1), FreePlace.UNKNOWN);
     }
@@ -185,6 +188,9 @@ final class TriedTest {
         built(mixed, 5, 2, 1, 0, 0, 0);
         built(mixed, 12, 1, 0, 2, 0, 0);
         built(mixed, 5, 0, 1, 0, 1, 0);
+        // Two chairs serve 4, 5, 6 at 0 and 3, at 1 and 2, or at 1 and 3.
+        FreePlace crossed = Check.realmOf("r0 0;t1 0;t1 0;t1 0;t1 0;t1 1;t1 1;t1 1;w4 0;w4 1;w5 3;w5 1;w6 3;w6 2;");
+        built(crossed, 112, 1, 1, 0, 0, 1, 0, 0, 0);
     }
 
     /** Promise 19: four chairs, and 20 seats. */
@@ -249,6 +255,9 @@ final class TriedTest {
         small.shut(0, true);
         CHECK.due("alone and full", small.spread(0), 0);
         CHECK.due("alone and empty", small.spread(1), 11);
+        FreePlace path = Check.realmOf("r0 0;t1 1;t1 1;t1 1;t1 1;t1 1;t1 1;t1 1;t1 1;t10 0;"
+                + "w0 1;w1 2;w2 3;w3 4;w4 5;w5 6;w6 7;w7 8;");
+        CHECK.due("as far as it hangs together", path.spread(0), 1);
         FreePlace broken = Check.realmOf("r0 0;t1 0;t3 0;w0 1;");
         broken.breakOne(0);
         CHECK.due("a table with no seat", broken.spread(1), 0);
