@@ -53,13 +53,15 @@ final class Check {
         for (int what = 0; what <= 16; what++) {
             all.append(place.told(what)).append(' ');
         }
-        for (int t = 0; t < place.told(2); t++) {
+        int tables = place.told(2);
+        for (int t = 0; t < tables; t++) {
             all.append('|');
             for (int what = 0; what <= 3; what++) {
                 all.append(place.table(t, what)).append(' ');
             }
         }
-        for (int w = 0; w < place.told(3); w++) {
+        int ways = place.told(3);
+        for (int w = 0; w < ways; w++) {
             all.append('/');
             for (int what = 0; what <= 2; what++) {
                 all.append(place.way(w, what)).append(' ');
@@ -67,6 +69,25 @@ final class Check {
         }
         all.append('=').append(place.fault()).append(' ').append(place.came()).append(' ').append(place.judge());
         return all.toString();
+    }
+
+    /** The state and the books in short: what acts, undo and images change. */
+    static String state(FreePlace place) {
+        StringBuilder all = new StringBuilder();
+        all.append(place.told(1)).append(' ').append(place.told(13));
+        for (int what = 6; what <= 10; what++) {
+            all.append(' ').append(place.told(what));
+        }
+        int tables = place.told(2);
+        for (int t = 0; t < tables; t++) {
+            all.append('|').append(place.table(t, 0)).append(' ').append(place.table(t, 1));
+        }
+        return all.toString();
+    }
+
+    /** THE SEED behind a seed, by the document's words. */
+    static long drawn(long seed) {
+        return (seed * 1103515245L + 12345L) % 2147483648L;
     }
 
     void close() {

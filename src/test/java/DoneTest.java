@@ -64,25 +64,14 @@ final class DoneTest {
 
     /** Promise 8: no more guests than 9001, and 60 more by a drift. */
     private static void comingToTheEnd() {
-        FreePlace x = Check.realmOf("r99 0;t1 1;");
-        x.seed(1);
-        int guests = 0;
-        while (guests <= 8960) {
-            x.drift(60);
-            guests = x.told(10);
-        }
-        while (guests < 9000) {
-            CHECK.due("come at " + guests + " guests", x.come(0) < 0 ? 1 : 0, x.told(10) == guests + 1 ? 1 : 0);
-            guests = x.told(10);
-        }
-        CHECK.due("9000 guests", guests, 9000);
-        x.keep(0);
+        FreePlace x = Lived.guests9000();
+        CHECK.due("9000 guests", x.told(10), 9000);
         CHECK.due("come at 9000", x.come(0) > FreePlace.FULL ? 1 : 0, 1);
         String before = Check.picture(x);
         CHECK.due("come at 9001", x.come(0), FreePlace.FULL);
         CHECK.due("drift at 9001", x.drift(1), FreePlace.FULL);
         CHECK.due("OUTSIDE is ahead of FULL", x.drift(61), FreePlace.OUTSIDE);
-        CHECK.due("UNKNOWN is ahead of FULL", x.come(1), FreePlace.UNKNOWN);
+        CHECK.due("UNKNOWN is ahead of FULL", x.come(2), FreePlace.UNKNOWN);
         CHECK.same("FULL", x, before);
         x.goBack(0);
         CHECK.due("drift at 9000", x.drift(60) >= 0 ? 1 : 0, 1);
@@ -159,10 +148,6 @@ final class DoneTest {
         CHECK.same("shut", x, before);
     }
 
-    private static int drawn(int seed) {
-        return (int) ((seed * 1103515245L + 12345L) % 2147483648L);
-    }
-
     /** Promise 13: by draws told out again here. */
     private static void drifting() {
         for (int begin = 0; begin < 40; begin++) {
@@ -173,9 +158,9 @@ final class DoneTest {
             drifts.seed(seed);
             int sitting = drifts.drift(begin + 1);
             for (int i = 0; i <= begin; i++) {
-                seed = drawn(seed);
+                seed = (int) Check.drawn(seed);
                 int t = seed / 65536 % 3;
-                seed = drawn(seed);
+                seed = (int) Check.drawn(seed);
                 if (seed / 65536 % 3 == 0) {
                     led.go(t);
                 } else {

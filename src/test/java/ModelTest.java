@@ -1,11 +1,14 @@
 /** Runs of drawn calls, the class's answers held against those of Model. */
 final class ModelTest {
     private static final Check CHECK = new Check("ModelTest");
-    private static final int RUNS = 700;
+    private static final int RUNS = 1000;
+    /** An object is used for at most 512 calls. */
     private static final int CALLS = 512;
+    private static final int LAST_LOOK = 17 + 9 * 4 + 14 * 3 + 1;
     private static final int TEXTS = 20000;
 
     private long state;
+    private int calls;
 
     private ModelTest(long begin) {
         state = begin * 0x9E3779B97F4A7C15L + 1;
@@ -92,7 +95,8 @@ final class ModelTest {
         return t.toString();
     }
 
-    private static void feedBoth(FreePlace x, Model m, String text) {
+    private void feedBoth(FreePlace x, Model m, String text) {
+        calls += text.length();
         for (int i = 0; i < text.length(); i++) {
             CHECK.due("feed", x.feed(text.charAt(i)), m.feed(text.charAt(i)));
         }
@@ -115,10 +119,12 @@ final class ModelTest {
         if (below(30) > 0) {
             feedBoth(x, m, text);
             CHECK.due("realm " + text, x.realm(), m.realm());
+            calls++;
         }
         String told = "run " + run + " " + text;
-        for (int call = 0; call < CALLS; call++) {
-            step(x, m, told + " call " + call);
+        while (calls < CALLS - LAST_LOOK) {
+            calls++;
+            step(x, m, told + " call " + calls);
         }
         alike(x, m, told);
         CHECK.due(told + " seed", x.seed(0), m.seed(0));
@@ -187,9 +193,12 @@ final class ModelTest {
             CHECK.due(told + " seed(" + v + ")", x.seed(v), m.seed(v));
         } else if (below(12) == 0) {
             String text = below(2) == 0 ? spoilt(goodText()) : below(4) == 0 ? "  " : goodText();
-            feedBoth(x, m, text);
-            CHECK.due(told + " realm() of " + text, x.realm(), m.realm());
-            CHECK.due(told + " fault()", x.fault(), m.fault());
+            if (calls + text.length() + 1 <= CALLS - LAST_LOOK) {
+                feedBoth(x, m, text);
+                calls++;
+                CHECK.due(told + " realm() of " + text, x.realm(), m.realm());
+                CHECK.due(told + " fault()", x.fault(), m.fault());
+            }
         } else if (below(8) == 0) {
             int letter = below(2) == 0 ? ' ' : about(255);
             CHECK.due(told + " feed(" + letter + ")", x.feed(letter), m.feed(letter));
