@@ -21,6 +21,7 @@ final class SeenBoundsTest {
         cameWithAChain();
         cameOfLikeSights();
         cameAgainstEachOther();
+        cameAsChainsAreNow();
         lookParts();
         lookOfLikeOnesTheLeast();
         lookWhereNonePartsThem();
@@ -269,6 +270,33 @@ final class SeenBoundsTest {
         x.write(2, 1);
         CHECK.due("THE BOOK alone", x.tear(), 1);
         CHECK.due("without a REALM", new FreePlace().tear(), 0);
+        x.see(2, false);
+        CHECK.due("not by 2", x.came(), 32);
+        CHECK.due("what was not, too", x.tear(), 1);
+        CHECK.due("all fit again", x.came(), 47);
+        x.see(1, false);
+        x.see(1, true);
+        Check.feed(x, TREE);
+        x.realm();
+        CHECK.due("all fit in a new realm", x.came(), 47);
+    }
+
+    /** CHAINS are those of now. */
+    private static void cameAsChainsAreNow() {
+        FreePlace x = Check.realmOf(TREE);
+        x.see(1, true);
+        CHECK.due("by 1", x.came(), 3);
+        x.build(1);
+        CHECK.due("1 FREE at 1", x.came(), 3);
+        x.build(1);
+        CHECK.due("2 FREE at 1: it is the last", x.came(), 0);
+        x.shut(1, true);
+        x.breakOne(1);
+        CHECK.due("no CHAIN by 1", x.came(), 0);
+        x.shut(1, false);
+        CHECK.due("by 1 again", x.came(), 3);
+        x.go(0);
+        CHECK.due("1 FREE at 0", x.came(), 3);
     }
 
     /** "WRONG: the first that is otherwise now; NONE". */

@@ -44,6 +44,10 @@ final class TriedBoundsTest {
         inspectedAndEmergency();
         quietBounds();
         quietIsCutEachTime();
+        allOfNoTable();
+        allOfOneTable();
+        allOfNoneFree();
+        triedBehind9001();
         CHECK.close();
     }
 
@@ -145,6 +149,10 @@ final class TriedBoundsTest {
         }
         CHECK.due("more(4)", x.more(4), FreePlace.UNKNOWN);
         CHECK.due("more(-1)", x.more(-1), FreePlace.UNKNOWN);
+        FreePlace together = Check.realmOf("r0 0;t5 1;t4 3;t5 3;w0 1;w1 2;");
+        for (int t = 0; t < 3; t++) {
+            CHECK.due("3 and 0 and 1", together.more(t), 4);
+        }
     }
 
     /** "(a TABLE with none FREE: 0)": nothing is taken off. */
@@ -305,6 +313,8 @@ final class TriedBoundsTest {
         built(ones, 15, 0, 1, 1, 1, 1, 0);
         built(ones, 30, 0, 0, 1, 1, 1, 1);
         noneBuilt(ones, 31, 0);
+        FreePlace beside = Check.realmOf("r0 0;t1 0;t1 0;t1 0;t1 0;t2 0;");
+        built(beside, 31, 0, 1, 1, 1, 1, 0);
         FreePlace twos = Check.realmOf("r0 0;t1 1;t1 1;t1 1;t1 0;");
         built(twos, 3, 0, 2, 2, 0, 0);
         built(twos, 9, 0, 2, 0, 0, 1);
@@ -378,6 +388,18 @@ final class TriedBoundsTest {
         built(oneEach, 24, 1, 1, 1, 0, 0, 0);
         FreePlace second = Check.realmOf("r0 0;t1 0;t1 0;t1 0;t1 1;w1 3;w2 3;");
         built(second, 9, 1, 1, 1, 0, 0);
+        // Two chairs serve 4, 5, 6 at 0 and 3, at 1 and 2, or at 1 and 3.
+        FreePlace crossed = Check.realmOf("r0 0;t1 0;t1 0;t1 0;t1 0;t1 1;t1 1;t1 1;w4 0;w4 1;w5 3;w5 1;w6 3;w6 2;");
+        built(crossed, 112, 1, 1, 0, 0, 1, 0, 0, 0);
+        // One serves 2 at 1 or at 3; none is needed where 2 or more are FREE.
+        for (int seats = 2; seats <= 3; seats++) {
+            FreePlace open = Check.realmOf("r0 0;t" + seats + " 0;t1 0;t1 1;t1 0;w2 3;w2 1;");
+            built(open, 4, 1, 0, 1, 0, 0);
+            built(open, 5, 1, 0, 1, 0, 0);
+        }
+        // Two chairs serve 6 and 7 at 4, or at 3 and 5.
+        FreePlace behind = Check.realmOf("r0 0;t2 0;t2 0;t2 0;t1 0;t1 1;t1 0;t1 1;t1 1;w4 6;w4 7;w3 6;w5 7;");
+        built(behind, 192, 1, 0, 0, 0, 1, 0, 1, 0, 0);
         FreePlace alike = Check.realmOf("r0 0;t1 0;t1 0;w0 1;");
         built(alike, 3, 1, 1, 0);
         built(alike, 2, 1, 1, 0);
@@ -493,5 +515,86 @@ final class TriedBoundsTest {
         CHECK.due("the last", x.quiet(10, 90), 0);
         CHECK.due("one of a BILLION", x.quiet(29, 50), 1);
         CHECK.due("cut to none", x.quiet(30, 50), 0);
+    }
+
+    /** Each call with no TABLE: in no REALM, and in one that tells none. */
+    private static void allOfNoTable() {
+        for (FreePlace x : new FreePlace[] {new FreePlace(), Check.realmOf("r7 7;")}) {
+            CHECK.due("chain(0, NONE)", x.chain(0, NONE), FreePlace.UNKNOWN);
+            CHECK.due("more(0)", x.more(0), FreePlace.UNKNOWN);
+            CHECK.due("far(0)", x.far(0), NONE);
+            CHECK.due("far(1)", x.far(1), NONE);
+            CHECK.due("two(0, 0, 0)", x.two(0, 0, 0), FreePlace.UNKNOWN);
+            CHECK.due("chairs(0, 0, NONE)", x.chairs(0, 0, NONE), 0);
+            CHECK.due("chairs(1, 0, NONE)", x.chairs(1, 0, NONE), FreePlace.UNKNOWN);
+            CHECK.due("chairs(0, 0, 0)", x.chairs(0, 0, 0), FreePlace.UNKNOWN);
+            CHECK.due("spread(0)", x.spread(0), FreePlace.UNKNOWN);
+            CHECK.due("quiet(1, 1)", x.quiet(1, 1), 990000000);
+            CHECK.due("INSPECTED", x.told(11), 0);
+            CHECK.due("EMERGENCY", x.told(12), 0);
+            CHECK.due("all who SIT", x.told(5), 0);
+        }
+    }
+
+    private static void oneTable(int free, int moves, int more, int emergency, int inspected, int two, int chairs) {
+        FreePlace x = Check.realmOf("r7 7;t3 " + (3 - free) + ";");
+        String of = " of " + free + " FREE";
+        CHECK.due("chain(0, NONE)" + of, x.chain(0, NONE), moves);
+        CHECK.due("chain(0, 0)" + of, x.chain(0, 0), moves);
+        CHECK.due("chain(0, 1)" + of, x.chain(0, 1), NONE);
+        CHECK.due("more(0)" + of, x.more(0), more);
+        CHECK.due("far(0)" + of, x.far(0), moves);
+        CHECK.due("far(1)" + of, x.far(1), 0);
+        CHECK.due("two(0, 0, 0)" + of, x.two(0, 0, 0), 0);
+        CHECK.due("two(0, 0, 1)" + of, x.two(0, 0, 1), two);
+        CHECK.due("chairs(1, 0, NONE)" + of, x.chairs(1, 0, NONE), chairs);
+        CHECK.due("chairs(1, 8, 0)" + of, x.chairs(1, 8, 0), chairs);
+        CHECK.due("chairs(0, 0, 0)" + of, x.chairs(0, 0, 0), 0);
+        CHECK.due("spread(0)" + of, x.spread(0), free);
+        CHECK.due("EMERGENCY" + of, x.told(12), emergency);
+        CHECK.due("INSPECTED" + of, x.told(11), inspected);
+        CHECK.due("joined" + of, x.table(0, 3), 0);
+    }
+
+    private static void allOfOneTable() {
+        oneTable(0, NONE, 0, 1, 1, 2000, 2);
+        oneTable(1, NONE, 0, 1, 0, 2000, 1);
+        oneTable(2, 0, 1, 0, 0, 1000, 0);
+        oneTable(3, 0, 2, 0, 0, 0, 0);
+    }
+
+    private static void allOfNoneFree() {
+        FreePlace x = Check.realmOf("r7 7;t2 2;t1 1;t12 12;w0 1;w1 2;");
+        for (int t = 0; t < 3; t++) {
+            CHECK.due("MOVES", x.chain(t, NONE), NONE);
+            CHECK.due("more", x.more(t), 0);
+            CHECK.due("spread", x.spread(t), 0);
+            CHECK.due("two", x.two(t, 2 - t, 1), 2000);
+            CHECK.due("which first", x.two(t, 2 - t, 0), 0);
+            CHECK.due("none is FREE", x.breakOne(t), FreePlace.NOT);
+        }
+        CHECK.due("far(0)", x.far(0), NONE);
+        CHECK.due("far(1)", x.far(1), 0);
+        CHECK.due("EMERGENCY", x.told(12), 7);
+        CHECK.due("INSPECTED", x.told(11), 7);
+        built(x, 7, 1, 0, 2, 0);
+        built(x, 7, 8, 2, 0, 0);
+        noneBuilt(x, 7, 0);
+        for (int t = 0; t < 3; t++) {
+            CHECK.due("STANDS", x.come(t), -3);
+        }
+    }
+
+    /** What is tried asks nothing of GUESTS: only come() and drift() are FULL. */
+    private static void triedBehind9001() {
+        FreePlace x = Lived.guests9001();
+        for (int i = x.table(1, 1); i > 0; i--) {
+            x.go(1);
+        }
+        CHECK.due("2 FREE", x.table(1, 2), 2);
+        CHECK.due("two at the one place", x.two(1, 1, 1), 1000);
+        CHECK.due("a CHAIN", x.chain(0, NONE), 1);
+        CHECK.due("more", x.more(1) > 0 ? 1 : 0, 1);
+        CHECK.due("come", x.come(1), FreePlace.FULL);
     }
 }
