@@ -15,6 +15,7 @@ final class TextBoundsTest {
         text240AtMost();
         text240Read();
         textIsEmptyThen();
+        olderTextIsGone();
         fineFrom0To99();
         woodFrom0To99();
         rComesFirst();
@@ -162,6 +163,25 @@ final class TextBoundsTest {
             CHECK.due("240 letters again", full.feed(' '), i);
         }
         CHECK.due("the 241st again", full.feed(' '), FreePlace.FULL);
+    }
+
+    /** No letter of an older, longer text is read behind the end of a shorter one. */
+    private static void olderTextIsGone() {
+        String[] shorter = {"r0 0", "r", "r0 0;t1", "r0 0;t1 0", "r0 0;t1 0;w0", "r0 0;t1 0;t1 0;w0 1"};
+        for (String text : shorter) {
+            FreePlace x = Check.realmOf("r0 0;t1 0;t1 0;w0 1;");
+            Check.feed(x, text);
+            CHECK.due("realm of '" + text + "'", x.realm(), -11);
+            CHECK.due("fault of '" + text + "'", x.fault(), text.length());
+        }
+        FreePlace x = Check.fed("r0 0;t1 0;");
+        x.realm();
+        Check.feed(x, "r9 9;");
+        CHECK.due("the first clause alone", x.realm(), 0);
+        Check.feed(x, "r0 0;xxxxx");
+        x.realm();
+        Check.feed(x, "r0 0;");
+        CHECK.due("a fault behind the end", x.realm(), 0);
     }
 
     /** "a fine is F, 0 .. 99". */
