@@ -811,7 +811,7 @@ public final class FreePlace {
             state.guests++;
             int moves = chains.movesFrom(t);
             int last = chains.tableOf(t, moves);
-            if (last == NONE) {
+            if (!realm.hasTable(last)) {
                 return comesWithoutChain(realm, state, t);
             }
             state.sits[last]++;
@@ -838,7 +838,7 @@ public final class FreePlace {
                 int t = draws.draw(realm.tables);
                 if (draws.draw(3) != 0) {
                     guestComes(realm, state, t);
-                } else if (state.sits[t] > 0) {
+                } else if (realm.hasTable(t) && state.sits[t] > 0) {
                     state.sits[t]--;
                 }
             }

@@ -35,6 +35,7 @@ final class LanguageTest {
         words(lines);
         rowsOnce(lines);
         lengths(lines);
+        headings(lines);
         CHECK.close();
     }
 
@@ -111,6 +112,29 @@ final class LanguageTest {
                 holds(m + " has seven parameters at most", m.getParameterCount() <= 7);
             }
         }
+    }
+
+    /** "Ahead of the calls .. the interface says": each heading once, its calls behind it in their order. */
+    private static void headings(List<String> lines) {
+        String[] due = {
+            "---- the realm", "feed", "realm", "fault", "told", "table", "way",
+            "---- what is done", "come", "go", "build", "breakOne", "shut", "drift", "undo",
+            "---- tried", "chain", "more", "far", "two", "chairs", "spread", "quiet",
+            "---- what is seen", "see", "came", "look", "write", "tear", "judge",
+            "---- draws, images", "seed", "keep", "goBack",
+        };
+        Pattern heading = Pattern.compile(" {4}// (----.*)");
+        Pattern call = Pattern.compile(" {4}public int (\\w+)\\(.*");
+        List<String> found = new ArrayList<>();
+        for (String line : lines) {
+            for (Pattern one : new Pattern[] {heading, call}) {
+                Matcher m = one.matcher(line);
+                if (m.matches()) {
+                    found.add(m.group(1));
+                }
+            }
+        }
+        holds("the headings and their calls: " + found, found.equals(Arrays.asList(due)));
     }
 
     private static void signs(List<String> lines) {
